@@ -1,0 +1,48 @@
+/** What the tests share: counting wrong answers, and typing texts. */
+final class Checks {
+    private int asked;
+    private int wrong;
+
+    void due(String call, long got, long want) {
+        asked++;
+        if (got != want) {
+            wrong++;
+            if (wrong <= 40) {
+                System.out.println(call + " answered " + got + ", due is " + want);
+            }
+        }
+    }
+
+    void isTrue(String what, boolean holds) {
+        due(what, holds ? 1 : 0, 1);
+    }
+
+    /** Tells what was wrong and ends with exit code 1 if there was any. */
+    void end() {
+        System.out.println(asked + " answers, " + wrong + " of them not as due");
+        if (wrong != 0 || asked == 0) {
+            System.exit(1);
+        }
+    }
+
+    static void type(NoteBells x, String text) {
+        for (int at = 0; at < text.length(); at += 8) {
+            int n = Math.min(8, text.length() - at);
+            long v = 0;
+            for (int i = 0; i < n; i++) {
+                v = v << 8 | text.charAt(at + i) & 255;
+            }
+            x.type(v, n);
+        }
+    }
+
+    static NoteBells shaft(String text) {
+        NoteBells x = new NoteBells();
+        type(x, text);
+        int items = x.shaft();
+        if (items < 0) {
+            throw new IllegalArgumentException("fault at " + (-10 - items) + " of: " + text);
+        }
+        return x;
+    }
+}
