@@ -382,11 +382,6 @@ public final class NoteBells {
             length = 0;
             return had;
         }
-
-        /** The byte at a place, -1 behind the text's end. */
-        private int byteAt(int place) {
-            return isWithin(place, 0, length - 1) ? bytes[place] : -1;
-        }
     }
 
     /** What a text tells; a new one is what stands when nothing is told. */
@@ -430,18 +425,18 @@ public final class NoteBells {
         }
     }
 
-    /** Reads the text, token by token, into a draft of what it tells. */
+    /** Splits the text into tokens, and reads these into a draft of what they tell. */
     private static final class Reader {
         private static final int END = 0, WRONG = 1, NUMBER = 2, SEMICOLON = 3;
         private static final int LEVEL = 4, MAN = 5, EAR = 6, WET = 7, PACE = 8;
-        private static final int MOST_NUMBER = 99;
 
         private final Text text;
         private final Told draft;
-        private int start;
-        private int end;
-        private int token;
-        private int number;
+        private final int[] tokens = new int[MOST_BYTES + 1];
+        private final int[] starts = new int[MOST_BYTES + 1];
+        private final int[] numbers = new int[MOST_BYTES + 1];
+        /** The token that is read; behind the last one stands END, and nothing is read behind that. */
+        private int at;
         private boolean earTold;
         private boolean wetTold;
         private boolean paceTold;
@@ -453,25 +448,25 @@ public final class NoteBells {
 
         /** How many items there are; -10 less the fault's place. */
         private int read() {
+            splitText();
             draft.reset();
             earTold = false;
             wetTold = false;
             paceTold = false;
-            end = 0;
+            at = 0;
             int items = 0;
-            nextToken();
-            while (token != END && items < MOST_BYTES) {
+            while (tokens[at] != END && items < MOST_BYTES) {
                 if (!readItem()) {
-                    return -10 - start;
+                    return -10 - starts[at];
                 }
                 items++;
-                nextToken();
+                advance();
             }
             return items;
         }
 
         private boolean readItem() {
-            switch (token) {
+            switch (tokens[at]) {
                 case LEVEL:
                     return readLevel();
                 case MAN:
@@ -495,15 +490,15 @@ public final class NoteBells {
             if (!readNumber(0, MOST_PITCH)) {
                 return false;
             }
-            draft.pitch[l] = number;
+            draft.pitch[l] = numbers[at];
             if (!readNumber(0, MOST_WEAR)) {
                 return false;
             }
-            draft.wear[l] = number;
+            draft.wear[l] = numbers[at];
             if (!readNumber(0, 1)) {
                 return false;
             }
-            draft.echo[l] = number;
+            draft.echo[l] = numbers[at];
             draft.levels = l + 1;
             return readSemicolon();
         }
@@ -513,7 +508,7 @@ public final class NoteBells {
             if (m >= MOST_MEN || !readNumber(0, draft.levels - 1)) {
                 return false;
             }
-            draft.stands[m] = number;
+            draft.stands[m] = numbers[at];
             draft.people = m + 1;
             return readSemicolon();
         }
@@ -522,7 +517,7 @@ public final class NoteBells {
             if (earTold || !readNumber(0, MOST_EAR)) {
                 return false;
             }
-            draft.ear = number;
+            draft.ear = numbers[at];
             earTold = true;
             return readSemicolon();
         }
@@ -531,7 +526,7 @@ public final class NoteBells {
             if (wetTold || !readNumber(0, MOST_WET)) {
                 return false;
             }
-            draft.wetness = number;
+            draft.wetness = numbers[at];
             wetTold = true;
             return readSemicolon();
         }
@@ -540,91 +535,107 @@ public final class NoteBells {
             if (paceTold || !readNumber(1, MOST_PACE)) {
                 return false;
             }
-            draft.pace = number;
+            draft.pace = numbers[at];
             paceTold = true;
             return readSemicolon();
         }
 
         private boolean readNumber(int least, int most) {
-            nextToken();
-            return token == NUMBER && isWithin(number, least, most);
+            advance();
+            return tokens[at] == NUMBER && isWithin(numbers[at], least, most);
         }
 
         private boolean readSemicolon() {
-            nextToken();
-            return token == SEMICOLON;
+            advance();
+            return tokens[at] == SEMICOLON;
         }
 
-        /** Moves to the next token; at the text's end, the token END starts there. */
-        private void nextToken() {
-            start = end;
-            while (start < text.length && text.byteAt(start) == ' ') {
-                start++;
-            }
-            end = start;
-            int sign = text.byteAt(start);
-            if (sign < 0) {
-                token = END;
-            } else if (isLetter(sign)) {
-                takeWord();
-            } else if (isDigit(sign)) {
-                takeNumber();
-            } else {
-                end = start + 1;
-                token = sign == ';' ? SEMICOLON : WRONG;
+        private void advance() {
+            if (tokens[at] != END && at < MOST_BYTES) {
+                at++;
             }
         }
 
-        private void takeWord() {
-            while (end < text.length && isLetter(text.byteAt(end))) {
+        private void splitText() {
+            int found = 0;
+            int place = 0;
+            while (place < text.length && found < MOST_BYTES) {
+                if (text.bytes[place] == ' ') {
+                    place++;
+                } else {
+                    starts[found] = place;
+                    place = takeToken(found, place);
+                    found++;
+                }
+            }
+            tokens[found] = END;
+            starts[found] = text.length;
+        }
+
+        /** The place behind the token that starts at a place. */
+        private int takeToken(int i, int place) {
+            int sign = text.bytes[place];
+            if (isWithin(sign, 'a', 'z')) {
+                int end = endOfRun(place, 'a', 'z');
+                tokens[i] = wordAt(place, end);
+                return end;
+            }
+            if (isWithin(sign, '0', '9')) {
+                int end = endOfRun(place, '0', '9');
+                numbers[i] = numberAt(place, end);
+                tokens[i] = numbers[i] < 0 ? WRONG : NUMBER;
+                return end;
+            }
+            tokens[i] = sign == ';' ? SEMICOLON : WRONG;
+            return place + 1;
+        }
+
+        private int endOfRun(int place, int least, int most) {
+            int end = place + 1;
+            while (end < text.length && isWithin(text.bytes[end], least, most)) {
                 end++;
             }
-            if (isWord("level")) {
-                token = LEVEL;
-            } else if (isWord("man")) {
-                token = MAN;
-            } else if (isWord("ear")) {
-                token = EAR;
-            } else if (isWord("wet")) {
-                token = WET;
-            } else if (isWord("pace")) {
-                token = PACE;
-            } else {
-                token = WRONG;
-            }
+            return end;
         }
 
-        private boolean isWord(String word) {
-            if (end - start != word.length()) {
+        private int wordAt(int place, int end) {
+            if (isWord("level", place, end)) {
+                return LEVEL;
+            }
+            if (isWord("man", place, end)) {
+                return MAN;
+            }
+            if (isWord("ear", place, end)) {
+                return EAR;
+            }
+            if (isWord("wet", place, end)) {
+                return WET;
+            }
+            return isWord("pace", place, end) ? PACE : WRONG;
+        }
+
+        private boolean isWord(String word, int place, int end) {
+            if (end - place != word.length()) {
                 return false;
             }
             for (int i = 0; i < word.length(); i++) {
-                if (text.byteAt(start + i) != word.charAt(i)) {
+                if (text.bytes[place + i] != word.charAt(i)) {
                     return false;
                 }
             }
             return true;
         }
 
-        private void takeNumber() {
-            number = 0;
-            while (end < text.length && isDigit(text.byteAt(end))) {
-                // A number that is too big already grows no more, so that a long one can't wrap round.
-                if (number <= MOST_NUMBER) {
-                    number = number * 10 + text.byteAt(end) - '0';
-                }
-                end++;
+        /** The number of one sign, or of two of which the first is no 0; -1 if it is no such number. */
+        private int numberAt(int place, int end) {
+            int last = text.bytes[end - 1] - '0';
+            if (end - place == 1) {
+                return last;
             }
-            boolean zeroAhead = text.byteAt(start) == '0' && end - start > 1;
-            token = zeroAhead || number > MOST_NUMBER ? WRONG : NUMBER;
-        }
-
-        private static boolean isLetter(int sign) {
-            return isWithin(sign, 'a', 'z');
-        }
-
-        private static boolean isDigit(int sign) {
-            return isWithin(sign, '0', '9');
+            if (end - place > 2 || text.bytes[place] == '0') {
+                return -1;
+            }
+            return (text.bytes[place] - '0') * 10 + last;
         }
     }
 

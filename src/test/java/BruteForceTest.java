@@ -23,10 +23,36 @@ final class BruteForceTest {
     private void oneRun(int round) {
         Model m = randomModel(round % 3);
         NoteBells x = Checks.shaft(m.text());
+        Model[] kept = new Model[2];
         for (int step = 0; step < 40; step++) {
             change(x, m);
+            m = keepOrBack(x, m, kept);
+            if (random.nextInt(60) == 0) {
+                m = randomModel(random.nextInt(3));
+                kept = new Model[2];
+                Checks.type(x, m.text());
+                checks.due("shaft", x.shaft(), m.pitch.size() + m.at.size() + 3);
+            }
             ask(x, m, "round " + round + " step " + step + " (" + m.text() + ") ");
         }
+    }
+
+    private Model keepOrBack(NoteBells x, Model m, Model[] kept) {
+        int which = random.nextInt(12);
+        int image = random.nextInt(4) - 1;
+        boolean bad = image < 0 || image > 1;
+        if (which == 0) {
+            checks.due("keep", x.keep(image), bad ? -1 : m.year);
+            if (!bad) {
+                kept[image] = m.copy();
+            }
+        } else if (which < 3) {
+            checks.due("back", x.back(image), bad ? -1 : kept[image] == null ? -2 : kept[image].year);
+            if (!bad && kept[image] != null) {
+                return kept[image].copy();
+            }
+        }
+        return m;
     }
 
     private Model randomModel(int style) {
@@ -206,6 +232,22 @@ final class BruteForceTest {
                 told = b.toString();
             }
             return told;
+        }
+
+        /** A whole copy will do as an image: what an image does not keep changes by shaft() alone. */
+        Model copy() {
+            Model c = new Model();
+            c.pitch.addAll(pitch);
+            c.wear.addAll(wear);
+            c.echo.addAll(echo);
+            c.at.addAll(at);
+            c.book.addAll(book);
+            c.hymn.addAll(hymn);
+            c.ear = ear;
+            c.wet = wet;
+            c.pace = pace;
+            c.year = year;
+            return c;
         }
 
         String bookText() {

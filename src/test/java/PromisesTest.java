@@ -154,6 +154,10 @@ final class PromisesTest {
         fault("levels 1 1 1;", 0);
         fault("levelman 1;", 0);
         fault("  Level 1 1 1;", 2);
+        String[] unlike = {"bevel", "lavel", "leeel", "levil", "leven", "fan", "men", "mat", "bar", "eer", "eat", "pet", "wit", "web", "race", "pice", "pane", "pack"};
+        for (String word : unlike) {
+            fault("ear 1; " + word + " 1;", 7);
+        }
         fault(";", 0);
         fault("5", 0);
         fault("ear 1;;", 6);
@@ -217,6 +221,14 @@ final class PromisesTest {
         due("4 rope is whole", x.mends(), STATE);
         due("4 images are gone", x.back(0), STATE);
         due("4 trace stays", x.trace(), 11);
+        Checks.type(x, "ear 1;wet 2;pace 3;ear 1;");
+        due("4 a fault behind settings", x.shaft(), -29);
+        x.clear();
+        for (int i = 0; i < 2; i++) {
+            Checks.type(x, "ear 4;wet 5;pace 2;");
+            due("4 once each a text", x.shaft(), 3);
+            counts("4 once each a text", x, 0, 0, 4, 5, 2);
+        }
         due("4 none told", x.shaft(), 0);
         counts("4 none told", x, 0, 0, 0, 0, 1, 0, 0, 0, 0);
     }
@@ -492,6 +504,10 @@ final class PromisesTest {
         NoteBells quick = Checks.shaft("level 60 0 0;level 50 0 0;level 40 0 0;level 30 0 0;level 20 0 0;pace 4;");
         hear(quick, 0, 60, 1, 20, 2, 60);
         due("19 by pace", quick.men(), 1);
+        // The second man must go to meet the first, though the first could go to meet him.
+        NoteBells both = Checks.shaft("level 60 0 0;level 53 0 0;level 46 0 0;level 39 0 0;level 32 0 0;level 25 0 0;level 18 0 0;level 11 0 0;");
+        hear(both, 0, 39, 0, 11, 2, 25, 2, 53);
+        due("19 the second climbs", both.men(), 2);
         NoteBells nowhere = new NoteBells();
         nowhere.heard(0, 0);
         due("19 no levels", nowhere.men(), NONE);
@@ -542,7 +558,7 @@ final class PromisesTest {
         NoteBells all = Checks.shaft("level 5 0 0;".repeat(8) + "ear 9;");
         due("20 seven", all.keeps(0), 7);
         due("20 the least bits", all.keeps(1), 1);
-        // 20 and 23 sound alike at a wet of 6 or so alone.
+        // 20 and 23 sound alike at the wets 5 and 6 alone.
         NoteBells wet = Checks.shaft("level 20 0 0;level 23 0 0;level 60 0 0;");
         due("20 any wet", wet.keeps(0), 1);
         due("20 any wet, the set", wet.keeps(1), 5);
@@ -732,8 +748,8 @@ final class PromisesTest {
         due("29 none kept", x.back(0), STATE);
         due("29 image 2", x.back(2), BAD);
         x.year();
-        hear(x, 3, 20, 4, 21);
-        sing(x, 18, 17, 16);
+        hear(x, 3, 25, 4, 26);
+        sing(x, 25, 15, 25);
         x.falls(1);
         x.keep(1);
         x.year();
@@ -754,8 +770,11 @@ final class PromisesTest {
         due("29 rope", x.plucks(0), NO);
         due("29 mends", x.mends(), 1);
         due("29 the last minute", x.heard(3, 0), BAD);
-        due("29 where", x.where(0), x.comes(20));
-        due("29 the hymn", x.climbing(), NONE);
+        due("29 the first note", x.where(0), 2);
+        due("29 the tracks", x.tracks(), 1);
+        due("29 the men", x.men(), 1);
+        due("29 the hymn", x.climbing(), 2);
+        due("29 who plays it", x.by(2, 1), 1);
         due("29 trace stays", x.trace(), 1);
         x.year();
         due("29 as often as asked", x.back(1), 1);
