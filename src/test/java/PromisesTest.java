@@ -193,6 +193,19 @@ final class PromisesTest {
         fault("ear 1;ear 1;", 6);
         fault("wet 1;wet 1;", 6);
         fault("pace 1;ear 2;pace 1;", 13);
+        fault(";".repeat(200), 0);
+        fault(" ".repeat(199) + "5", 199);
+        fault(" ".repeat(197) + "ear", 200);
+        fault(" ".repeat(195) + "ear 1", 200);
+        // What was typed ahead of clear() is not read on.
+        NoteBells x = new NoteBells();
+        Checks.type(x, "ear 12;");
+        x.clear();
+        Checks.type(x, "ear 1");
+        due("4 the end of a shorter text", x.shaft(), -15);
+        x.clear();
+        Checks.type(x, "ear ");
+        due("4 the end of a yet shorter text", x.shaft(), -14);
     }
 
     private void promise4Anew() {
