@@ -1008,11 +1008,6 @@ public final class NoteBells {
                 possible[i] = sounds.likeSound(now.hymn[i]);
             }
             markStandings();
-            for (int standing = 0; standing < STANDINGS; standing++) {
-                if (rest[now.sung][standing] != UNSEEN) {
-                    rest[now.sung][standing] = 0;
-                }
-            }
             for (int i = now.sung - 1; i >= 0; i--) {
                 for (int standing = 0; standing < STANDINGS; standing++) {
                     if (rest[i][standing] != UNSEEN) {
@@ -1022,7 +1017,7 @@ public final class NoteBells {
             }
         }
 
-        /** Only standings that can come up are looked at further: they are few for most hymns. */
+        /** Only standings that can come up are looked at further: they are few for most hymns. Behind the last note the rest is 0. */
         private void markStandings() {
             for (int i = 0; i <= now.sung; i++) {
                 Arrays.fill(rest[i], UNSEEN);

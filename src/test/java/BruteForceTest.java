@@ -9,7 +9,7 @@ final class BruteForceTest {
 
     public static void main(String[] args) {
         BruteForceTest t = new BruteForceTest();
-        for (int round = 0; round < 1500; round++) {
+        for (int round = 0; round < 4000; round++) {
             t.oneRun(round);
         }
         for (int round = 0; round < 4000; round++) {
@@ -24,10 +24,14 @@ final class BruteForceTest {
         Model m = randomModel(round % 3);
         NoteBells x = Checks.shaft(m.text());
         Model[] kept = new Model[2];
-        for (int step = 0; step < 40; step++) {
-            change(x, m);
+        int before = checks.asked();
+        // A step makes 140 calls at most, and 25 more where a text is read: an object is used for 512 calls at most.
+        for (int step = 0; step < 40 && checks.asked() - before < 300; step++) {
+            for (int i = random.nextInt(6); i >= 0; i--) {
+                change(x, m);
+            }
             m = keepOrBack(x, m, kept);
-            if (random.nextInt(60) == 0) {
+            if (step == 4 && random.nextInt(3) == 0) {
                 m = randomModel(random.nextInt(3));
                 kept = new Model[2];
                 Checks.type(x, m.text());

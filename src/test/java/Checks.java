@@ -1,20 +1,31 @@
-/** What the tests share: counting wrong answers, and typing texts. */
+/** What the tests share: counting wrong answers, typing texts, and filling the book and the hymn. */
 final class Checks {
     private int asked;
     private int wrong;
+    private String sentence = "";
+
+    /** The sentence of the document against which the next answers are held: it is told with each wrong one. */
+    void of(String words) {
+        sentence = words + ": ";
+    }
 
     void due(String call, long got, long want) {
         asked++;
         if (got != want) {
             wrong++;
             if (wrong <= 40) {
-                System.out.println(call + " answered " + got + ", due is " + want);
+                System.out.println(sentence + call + " answered " + got + ", due is " + want);
             }
         }
     }
 
     void isTrue(String what, boolean holds) {
         due(what, holds ? 1 : 0, 1);
+    }
+
+    /** How many answers were held against what is due: tests count the calls of an object by it. */
+    int asked() {
+        return asked;
     }
 
     /** Tells what was wrong and ends with exit code 1 if there was any. */
@@ -44,5 +55,17 @@ final class Checks {
             throw new IllegalArgumentException("fault at " + (-10 - items) + " of: " + text);
         }
         return x;
+    }
+
+    static void hear(NoteBells x, int... minutesAndNotes) {
+        for (int i = 0; i + 1 < minutesAndNotes.length; i += 2) {
+            x.heard(minutesAndNotes[i], minutesAndNotes[i + 1]);
+        }
+    }
+
+    static void sing(NoteBells x, int... notes) {
+        for (int note : notes) {
+            x.sing(note);
+        }
     }
 }

@@ -399,13 +399,12 @@ final class PromisesTest {
         due("14 one left", x.level(0, 0), 1);
         due("14 four", x.year(), 4);
         due("14 0 at least", x.level(0, 0), 0);
-        // An object is promised for 512 calls alone: the years until 999 go by in calls that are free, and hold here.
+        // YEAR 999, which no object comes to within its 512 calls, is asked in TermsSoundTest.
         NoteBells y = Checks.shaft("");
-        for (int i = 1; i <= 999; i++) {
+        for (int i = 1; i <= 500; i++) {
             due("14 year", y.year(), i);
         }
-        due("14 999 at most", y.year(), STATE);
-        due("14 stays", y.count(7), 999);
+        due("14 count", y.count(7), 500);
     }
 
     private void promise15Heard() {
