@@ -1,19 +1,24 @@
 /** What the tests share: counting wrong answers, typing texts, and filling the book and the hymn. */
 final class Checks {
+    private static final int TOLD_OF_A_SENTENCE = 20;
+
     private int asked;
     private int wrong;
+    private int wrongOfSentence;
     private String sentence = "";
 
     /** The sentence of the document against which the next answers are held: it is told with each wrong one. */
     void of(String words) {
         sentence = words + ": ";
+        wrongOfSentence = 0;
     }
 
     void due(String call, long got, long want) {
         asked++;
         if (got != want) {
             wrong++;
-            if (wrong <= 40) {
+            wrongOfSentence++;
+            if (wrongOfSentence <= TOLD_OF_A_SENTENCE) {
                 System.out.println(sentence + call + " answered " + got + ", due is " + want);
             }
         }

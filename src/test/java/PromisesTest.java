@@ -67,67 +67,71 @@ final class PromisesTest {
     }
 
     private void promise1New() {
+        checks.of("Promise 1: NoteBells()");
         NoteBells x = new NoteBells();
-        counts("1 new", x, 0, 0, 0, 0, 1, 0, 0, 0, 0);
-        due("1 trace", x.trace(), 0);
-        due("1 man", x.man(0), BAD);
-        due("1 level", x.level(0, 0), NO);
-        due("1 tracks", x.tracks(), 1);
-        due("1 men", x.men(), 0);
-        due("1 keeps 0", x.keeps(0), 0);
-        due("1 keeps 1", x.keeps(1), 0);
-        due("1 first", x.first(), NONE);
-        due("1 climbing", x.climbing(), 0);
-        due("1 back", x.back(0), STATE);
-        due("1 mends", x.mends(), STATE);
-        due("1 comes", x.comes(0), 0);
+        counts("new", x, 0, 0, 0, 0, 1, 0, 0, 0, 0);
+        due("trace", x.trace(), 0);
+        due("man", x.man(0), BAD);
+        due("level", x.level(0, 0), NO);
+        due("tracks", x.tracks(), 1);
+        due("men", x.men(), 0);
+        due("keeps 0", x.keeps(0), 0);
+        due("keeps 1", x.keeps(1), 0);
+        due("first", x.first(), NONE);
+        due("climbing", x.climbing(), 0);
+        due("back", x.back(0), STATE);
+        due("mends", x.mends(), STATE);
+        due("comes", x.comes(0), 0);
     }
 
     private void promise2Type() {
+        checks.of("Promise 2: type()");
         NoteBells x = new NoteBells();
-        due("2 n 0", x.type(59, 0), BAD);
-        due("2 n 9", x.type(59, 9), BAD);
-        due("2 n -1", x.type(59, -1), BAD);
-        due("2 n least", x.type(59, Integer.MIN_VALUE), BAD);
-        due("2 n most", x.type(59, Integer.MAX_VALUE), BAD);
-        due("2 nothing typed", x.count(8), 0);
-        due("2 only the lowest", x.type(0x7171717165617220L, 4), 4);
-        due("2 the highest first", x.type(0x343BL, 2), 6);
-        due("2 read", x.shaft(), 1);
-        due("2 ear", x.count(2), 4);
-        due("2 a high byte", x.type(-1L, 8), 8);
-        due("2 it is no token", x.shaft(), -10);
+        due("n 0", x.type(59, 0), BAD);
+        due("n 9", x.type(59, 9), BAD);
+        due("n -1", x.type(59, -1), BAD);
+        due("n least", x.type(59, Integer.MIN_VALUE), BAD);
+        due("n most", x.type(59, Integer.MAX_VALUE), BAD);
+        due("nothing typed", x.count(8), 0);
+        due("only the lowest", x.type(0x7171717165617220L, 4), 4);
+        due("the highest first", x.type(0x343BL, 2), 6);
+        due("read", x.shaft(), 1);
+        due("ear", x.count(2), 4);
+        due("a high byte", x.type(-1L, 8), 8);
+        due("it is no token", x.shaft(), -10);
         for (int i = 2; i <= 24; i++) {
-            due("2 eight more", x.type(0x2020202020202020L, 8), 8 * i);
+            due("eight more", x.type(0x2020202020202020L, 8), 8 * i);
         }
-        due("2 seven more", x.type(0, 7), 199);
-        due("2 two too many", x.type(0x2020, 2), FULL);
-        due("2 bad ahead of full", x.type(0x2020, 9), BAD);
-        due("2 one more", x.type(59, 1), 200);
-        due("2 full", x.type(59, 1), FULL);
-        due("2 stays", x.count(8), 200);
+        due("seven more", x.type(0, 7), 199);
+        due("two too many", x.type(0x2020, 2), FULL);
+        due("bad ahead of full", x.type(0x2020, 9), BAD);
+        due("one more", x.type(59, 1), 200);
+        due("full", x.type(59, 1), FULL);
+        due("stays", x.count(8), 200);
     }
 
     private void promise3Clear() {
+        checks.of("Promise 3: clear()");
         NoteBells x = Checks.shaft("level 7 0 0;ear 3;");
-        due("3 empty", x.clear(), 0);
+        due("empty", x.clear(), 0);
         Checks.type(x, "level 9");
-        due("3 had", x.clear(), 7);
-        due("3 empty again", x.clear(), 0);
-        due("3 bytes", x.count(8), 0);
-        due("3 the rest stays", x.level(0, 0), 7);
+        due("had", x.clear(), 7);
+        due("empty again", x.clear(), 0);
+        due("bytes", x.count(8), 0);
+        due("the rest stays", x.level(0, 0), 7);
         Checks.type(x, "ear 5;");
-        due("3 anew", x.shaft(), 1);
+        due("anew", x.shaft(), 1);
     }
 
     private void items(String text, int want) {
         NoteBells x = new NoteBells();
         Checks.type(x, text);
-        due("4 '" + text + "'", x.shaft(), want);
-        due("4 text behind '" + text + "'", x.count(8), want < 0 ? text.length() : 0);
+        due("'" + text + "'", x.shaft(), want);
+        due("text behind '" + text + "'", x.count(8), want < 0 ? text.length() : 0);
     }
 
     private void promise4Items() {
+        checks.of("Promise 4: shaft()");
         items("", 0);
         items("   ", 0);
         items(" ".repeat(200), 0);
@@ -146,6 +150,7 @@ final class PromisesTest {
     }
 
     private void promise4Faults() {
+        checks.of("Promise 4: shaft()");
         fault("level", 5);
         fault("level 1 1 1", 11);
         fault("level 1 1 1   ", 14);
@@ -202,13 +207,14 @@ final class PromisesTest {
         Checks.type(x, "ear 12;");
         x.clear();
         Checks.type(x, "ear 1");
-        due("4 the end of a shorter text", x.shaft(), -15);
+        due("the end of a shorter text", x.shaft(), -15);
         x.clear();
         Checks.type(x, "ear ");
-        due("4 the end of a yet shorter text", x.shaft(), -14);
+        due("the end of a yet shorter text", x.shaft(), -14);
     }
 
     private void promise4Anew() {
+        checks.of("Promise 4: shaft()");
         NoteBells x = Checks.shaft("level 20 1 1;level 10 2 0;man 1;ear 2;wet 4;pace 3;");
         x.year();
         x.climbs(0, 0);
@@ -218,317 +224,335 @@ final class PromisesTest {
         x.keep(0);
         x.mark(1, 0);
         Checks.type(x, "level 1 0 0;man 1");
-        due("4 a fault", x.shaft(), -26);
-        counts("4 behind a fault", x, 2, 1, 2, 4, 3, 1, 1, 1, 17);
-        due("4 man stays", x.man(0), 0);
-        due("4 pitch stays", x.level(0, 0), 19);
-        due("4 rope stays", x.mends(), 2);
+        due("a fault", x.shaft(), -26);
+        counts("behind a fault", x, 2, 1, 2, 4, 3, 1, 1, 1, 17);
+        due("man stays", x.man(0), 0);
+        due("pitch stays", x.level(0, 0), 19);
+        due("rope stays", x.mends(), 2);
         x.falls(1);
-        due("4 image stays", x.back(0), 1);
+        due("image stays", x.back(0), 1);
         x.clear();
         Checks.type(x, "level 30 0 1;level 40 0 0;man 1;");
-        due("4 anew", x.shaft(), 3);
-        counts("4 anew", x, 2, 1, 0, 0, 1, 0, 0, 0, 0);
-        due("4 pitch told", x.level(1, 0), 40);
-        due("4 man told", x.man(0), 1);
-        due("4 rope is whole", x.mends(), STATE);
-        due("4 images are gone", x.back(0), STATE);
-        due("4 trace stays", x.trace(), 11);
+        due("anew", x.shaft(), 3);
+        counts("anew", x, 2, 1, 0, 0, 1, 0, 0, 0, 0);
+        due("pitch told", x.level(1, 0), 40);
+        due("man told", x.man(0), 1);
+        due("rope is whole", x.mends(), STATE);
+        due("images are gone", x.back(0), STATE);
+        due("trace stays", x.trace(), 11);
         Checks.type(x, "ear 1;wet 2;pace 3;ear 1;");
-        due("4 a fault behind settings", x.shaft(), -29);
+        due("a fault behind settings", x.shaft(), -29);
         x.clear();
         for (int i = 0; i < 2; i++) {
             Checks.type(x, "ear 4;wet 5;pace 2;");
-            due("4 once each a text", x.shaft(), 3);
-            counts("4 once each a text", x, 0, 0, 4, 5, 2);
+            due("once each a text", x.shaft(), 3);
+            counts("once each a text", x, 0, 0, 4, 5, 2);
         }
-        due("4 none told", x.shaft(), 0);
-        counts("4 none told", x, 0, 0, 0, 0, 1, 0, 0, 0, 0);
+        due("none told", x.shaft(), 0);
+        counts("none told", x, 0, 0, 0, 0, 1, 0, 0, 0, 0);
     }
 
     private void promise5Level() {
+        checks.of("Promise 5: level()");
         NoteBells x = Checks.shaft("level 60 9 1;level 0 0 0;level 5 3 1;wet 3;");
         int[][] wants = {{60, 9, 1, 59}, {0, 0, 0, -3}, {5, 3, 1, 1}};
         for (int l = 0; l < 3; l++) {
             for (int what = 0; what < 4; what++) {
-                due("5 level(" + l + ", " + what + ")", x.level(l, what), wants[l][what]);
+                due("level(" + l + ", " + what + ")", x.level(l, what), wants[l][what]);
             }
         }
-        due("5 what 4", x.level(0, 4), NO);
-        due("5 what -1", x.level(0, -1), NO);
-        due("5 level 3", x.level(3, 0), NO);
+        due("what 4", x.level(0, 4), NO);
+        due("what -1", x.level(0, -1), NO);
+        due("level 3", x.level(3, 0), NO);
         for (int off : OFF) {
-            due("5 level off", x.level(off, 0), NO);
-            due("5 what off", x.level(0, off), NO);
+            due("level off", x.level(off, 0), NO);
+            due("what off", x.level(0, off), NO);
         }
         x.wet(9);
-        due("5 wetter", x.level(2, 3), 5 - 13);
+        due("wetter", x.level(2, 3), 5 - 13);
         NoteBells deep = Checks.shaft("level 0 0 0;".repeat(8) + "wet 9;");
-        due("5 deepest", deep.level(7, 3), -36);
-        due("5 cut", deep.level(0, 3), -4);
+        due("deepest", deep.level(7, 3), -36);
+        due("cut", deep.level(0, 3), -4);
     }
 
     private void promise6Man() {
+        checks.of("Promise 6: man()");
         NoteBells x = Checks.shaft("level 1 0 0;level 2 0 0;man 1;man 0;");
-        due("6 man 0", x.man(0), 1);
-        due("6 man 1", x.man(1), 0);
-        due("6 man 2", x.man(2), BAD);
+        due("man 0", x.man(0), 1);
+        due("man 1", x.man(1), 0);
+        due("man 2", x.man(2), BAD);
         for (int off : OFF) {
-            due("6 man off", x.man(off), BAD);
+            due("man off", x.man(off), BAD);
         }
     }
 
     private void promise7Wet() {
+        checks.of("Promise 7: wet()");
         NoteBells x = new NoteBells();
-        due("7 first", x.wet(9), 0);
-        due("7 then", x.wet(0), 9);
-        due("7 same", x.wet(0), 0);
-        due("7 ten", x.wet(10), BAD);
-        due("7 below", x.wet(-1), BAD);
-        due("7 stays", x.count(3), 0);
-        due("7 five", x.wet(5), 0);
-        due("7 is five", x.count(3), 5);
+        due("first", x.wet(9), 0);
+        due("then", x.wet(0), 9);
+        due("same", x.wet(0), 0);
+        due("ten", x.wet(10), BAD);
+        due("below", x.wet(-1), BAD);
+        due("stays", x.count(3), 0);
+        due("five", x.wet(5), 0);
+        due("is five", x.count(3), 5);
     }
 
     private void promise8Taken() {
+        checks.of("Promise 8: taken()");
         NoteBells x = Checks.shaft("level 10 0 0;level 12 0 0;level 14 0 0;level 30 0 0;ear 2;");
         int[] wants = {3, 7, 6, 8};
         for (int l = 0; l < 4; l++) {
-            due("8 taken(" + l + ")", x.taken(l), wants[l]);
+            due("taken(" + l + ")", x.taken(l), wants[l]);
         }
         x.wet(2);
-        due("8 wet", x.taken(0), 7);
+        due("wet", x.taken(0), 7);
         x.falls(0);
-        due("8 silence is not asked", x.taken(1), 7);
-        due("8 level 4", x.taken(4), BAD);
+        due("silence is not asked", x.taken(1), 7);
+        due("level 4", x.taken(4), BAD);
         for (int off : OFF) {
-            due("8 off", x.taken(off), BAD);
+            due("off", x.taken(off), BAD);
         }
     }
 
     private void promise9Comes() {
+        checks.of("Promise 9: comes()");
         NoteBells x = Checks.shaft("level 0 0 0;level 12 0 0;level 14 0 0;ear 2;");
         int[] notes = {-3, -2, 2, 3, 9, 10, 12, 14, 15, 16, 17};
         int[] wants = {0, 1, 1, 0, 0, 2, 6, 6, 4, 4, 0};
         for (int i = 0; i < notes.length; i++) {
-            due("9 comes(" + notes[i] + ")", x.comes(notes[i]), wants[i]);
+            due("comes(" + notes[i] + ")", x.comes(notes[i]), wants[i]);
         }
         x.wet(9);
-        due("9 wet", x.comes(-6), 1);
+        due("wet", x.comes(-6), 1);
         x.falls(0);
-        due("9 silence is not asked", x.comes(-6), 1);
-        due("9 lowest", x.comes(-99), 0);
-        due("9 highest", x.comes(99), 0);
-        due("9 too low", x.comes(-100), BAD);
-        due("9 too high", x.comes(100), BAD);
-        due("9 least", x.comes(Integer.MIN_VALUE), BAD);
+        due("silence is not asked", x.comes(-6), 1);
+        due("lowest", x.comes(-99), 0);
+        due("highest", x.comes(99), 0);
+        due("too low", x.comes(-100), BAD);
+        due("too high", x.comes(100), BAD);
+        due("least", x.comes(Integer.MIN_VALUE), BAD);
     }
 
     private void promise10Climbs() {
+        checks.of("Promise 10: climbs()");
         NoteBells x = Checks.shaft("level 1 0 0;level 2 0 0;level 3 0 0;man 0;man 2;");
-        due("10 down", x.climbs(0, 2), 2);
-        due("10 there", x.man(0), 2);
-        due("10 the other stays", x.man(1), 2);
-        due("10 up", x.climbs(1, 1), 1);
-        due("10 is there", x.climbs(1, 1), STATE);
-        due("10 no man", x.climbs(2, 1), BAD);
-        due("10 no level", x.climbs(0, 3), BAD);
+        due("down", x.climbs(0, 2), 2);
+        due("there", x.man(0), 2);
+        due("the other stays", x.man(1), 2);
+        due("up", x.climbs(1, 1), 1);
+        due("is there", x.climbs(1, 1), STATE);
+        due("no man", x.climbs(2, 1), BAD);
+        due("no level", x.climbs(0, 3), BAD);
         for (int off : OFF) {
-            due("10 man off", x.climbs(off, 1), BAD);
-            due("10 level off", x.climbs(0, off), BAD);
+            due("man off", x.climbs(off, 1), BAD);
+            due("level off", x.climbs(0, off), BAD);
         }
-        due("10 stays", x.man(0), 2);
+        due("stays", x.man(0), 2);
     }
 
     private void promise11Plucks() {
+        checks.of("Promise 11: plucks()");
         NoteBells x = Checks.shaft("level 10 0 0;level 0 0 0;level 30 0 0;man 0;man 1;man 2;wet 9;");
-        due("11 highest", x.plucks(0), 6);
-        due("11 below 0", x.plucks(1), -9);
-        due("11 lowest", x.plucks(2), 17);
+        due("highest", x.plucks(0), 6);
+        due("below 0", x.plucks(1), -9);
+        due("lowest", x.plucks(2), 17);
         x.falls(1);
-        due("11 above the fall", x.plucks(0), 6);
-        due("11 at the fall", x.plucks(1), NO);
-        due("11 below the fall", x.plucks(2), NO);
+        due("above the fall", x.plucks(0), 6);
+        due("at the fall", x.plucks(1), NO);
+        due("below the fall", x.plucks(2), NO);
         x.climbs(2, 0);
-        due("11 climbed up", x.plucks(2), 6);
+        due("climbed up", x.plucks(2), 6);
         x.mends();
-        due("11 mended", x.plucks(1), -9);
-        due("11 no man", x.plucks(3), NO);
+        due("mended", x.plucks(1), -9);
+        due("no man", x.plucks(3), NO);
         for (int off : OFF) {
-            due("11 off", x.plucks(off), NO);
+            due("off", x.plucks(off), NO);
         }
     }
 
     private void promise12Falls() {
+        checks.of("Promise 12: falls()");
         NoteBells x = Checks.shaft("level 1 0 0;".repeat(5));
-        due("12 none there", x.falls(5), BAD);
-        due("12 lowest", x.falls(4), 1);
-        due("12 there already", x.falls(4), STATE);
-        due("12 higher", x.falls(2), 3);
-        due("12 higher already", x.falls(3), STATE);
-        due("12 there", x.falls(2), STATE);
-        due("12 highest", x.falls(0), 5);
-        due("12 bad ahead of state", x.falls(5), BAD);
+        due("none there", x.falls(5), BAD);
+        due("lowest", x.falls(4), 1);
+        due("there already", x.falls(4), STATE);
+        due("higher", x.falls(2), 3);
+        due("higher already", x.falls(3), STATE);
+        due("there", x.falls(2), STATE);
+        due("highest", x.falls(0), 5);
+        due("bad ahead of state", x.falls(5), BAD);
         for (int off : OFF) {
-            due("12 off", x.falls(off), BAD);
+            due("off", x.falls(off), BAD);
         }
-        due("12 nobody's", new NoteBells().falls(0), BAD);
+        due("nobody's", new NoteBells().falls(0), BAD);
     }
 
     private void promise13Mends() {
+        checks.of("Promise 13: mends()");
         NoteBells x = Checks.shaft("level 1 0 0;".repeat(8));
-        due("13 whole", x.mends(), STATE);
+        due("whole", x.mends(), STATE);
         x.falls(6);
-        due("13 two", x.mends(), 2);
-        due("13 whole again", x.mends(), STATE);
+        due("two", x.mends(), 2);
+        due("whole again", x.mends(), STATE);
         x.falls(7);
         x.falls(3);
-        due("13 five", x.mends(), 5);
-        due("13 can fall lower then", x.falls(7), 1);
+        due("five", x.mends(), 5);
+        due("can fall lower then", x.falls(7), 1);
     }
 
     private void promise14Year() {
+        checks.of("Promise 14: year()");
         NoteBells x = Checks.shaft("level 10 3 0;level 60 9 0;level 5 0 0;");
-        due("14 one", x.year(), 1);
-        due("14 worn", x.level(0, 0), 7);
-        due("14 worn 9", x.level(1, 0), 51);
-        due("14 not worn", x.level(2, 0), 5);
-        due("14 wear stays", x.level(0, 1), 3);
+        due("one", x.year(), 1);
+        due("worn", x.level(0, 0), 7);
+        due("worn 9", x.level(1, 0), 51);
+        due("not worn", x.level(2, 0), 5);
+        due("wear stays", x.level(0, 1), 3);
         x.year();
-        due("14 three", x.year(), 3);
-        due("14 one left", x.level(0, 0), 1);
-        due("14 four", x.year(), 4);
-        due("14 0 at least", x.level(0, 0), 0);
+        due("three", x.year(), 3);
+        due("one left", x.level(0, 0), 1);
+        due("four", x.year(), 4);
+        due("0 at least", x.level(0, 0), 0);
+        NoteBells all = Checks.shaft("level 9 1 0;".repeat(8));
+        due("of eight LEVELS", all.year(), 1);
+        due("the lowest is worn, too", all.level(7, 0), 8);
         // YEAR 999, which no object comes to within its 512 calls, is asked in TermsSoundTest.
         NoteBells y = Checks.shaft("");
         for (int i = 1; i <= 500; i++) {
-            due("14 year", y.year(), i);
+            due("year", y.year(), i);
         }
-        due("14 count", y.count(7), 500);
+        due("count", y.count(7), 500);
     }
 
     private void promise15Heard() {
+        checks.of("Promise 15: heard()");
         NoteBells x = new NoteBells();
         int[][] bad = {{-1, 0}, {100, 0}, {0, 100}, {0, -100}, {Integer.MIN_VALUE, 0}, {0, Integer.MAX_VALUE}};
         for (int[] b : bad) {
-            due("15 bad", x.heard(b[0], b[1]), BAD);
+            due("bad", x.heard(b[0], b[1]), BAD);
         }
-        due("15 none heard", x.count(5), 0);
-        due("15 one", x.heard(5, -99), 1);
-        due("15 earlier", x.heard(4, 0), BAD);
-        due("15 the same minute", x.heard(5, 99), 2);
-        due("15 last minute", x.heard(99, 0), 3);
-        due("15 earlier again", x.heard(98, 0), BAD);
+        due("none heard", x.count(5), 0);
+        due("one", x.heard(5, -99), 1);
+        due("earlier", x.heard(4, 0), BAD);
+        due("the same minute", x.heard(5, 99), 2);
+        due("last minute", x.heard(99, 0), 3);
+        due("earlier again", x.heard(98, 0), BAD);
         for (int i = 4; i <= 6; i++) {
-            due("15 more", x.heard(99, i), i);
+            due("more", x.heard(99, i), i);
         }
-        due("15 full", x.heard(99, 0), FULL);
-        due("15 bad ahead of full", x.heard(98, 0), BAD);
-        due("15 bad note ahead of full", x.heard(99, 100), BAD);
-        due("15 six", x.count(5), 6);
+        due("full", x.heard(99, 0), FULL);
+        due("bad ahead of full", x.heard(98, 0), BAD);
+        due("bad note ahead of full", x.heard(99, 100), BAD);
+        due("six", x.count(5), 6);
         x.forget();
-        due("15 early again", x.heard(0, 0), 1);
+        due("early again", x.heard(0, 0), 1);
     }
 
     private void promise16Forget() {
+        checks.of("Promise 16: forget()");
         NoteBells x = Checks.shaft("level 10 0 0;");
-        due("16 none", x.forget(), 0);
+        due("none", x.forget(), 0);
         hear(x, 0, 10, 1, 50);
-        due("16 two", x.forget(), 2);
-        due("16 empty", x.count(5), 0);
-        due("16 tracks", x.tracks(), 1);
-        due("16 again", x.forget(), 0);
+        due("two", x.forget(), 2);
+        due("empty", x.count(5), 0);
+        due("tracks", x.tracks(), 1);
+        due("again", x.forget(), 0);
     }
 
     private void promise17Tracks() {
+        checks.of("Promise 17: tracks()");
         NoteBells x = Checks.shaft("level 10 0 0;".repeat(8) + "pace 2;");
-        due("17 no notes", x.tracks(), 1);
+        due("no notes", x.tracks(), 1);
         hear(x, 0, 10);
-        due("17 one", x.tracks(), 8);
+        due("one", x.tracks(), 8);
         hear(x, 0, 10);
-        due("17 the same minute", x.tracks(), 8);
+        due("the same minute", x.tracks(), 8);
         hear(x, 1, 10);
-        due("17 two levels at most", x.tracks(), 8 + 14 + 12);
+        due("two levels at most", x.tracks(), 8 + 14 + 12);
         x.falls(0);
-        due("17 silence is not asked", x.tracks(), 34);
+        due("silence is not asked", x.tracks(), 34);
         x.wet(1);
-        due("17 wet", x.tracks(), 1);
+        due("wet", x.tracks(), 1);
         hear(x, 2, 11);
-        due("17 none", x.tracks(), 0);
+        due("none", x.tracks(), 0);
         NoteBells free = Checks.shaft("level 10 0 0;".repeat(8) + "pace 4;");
         hear(free, 0, 10, 2, 10, 4, 10, 6, 10, 8, 10, 10, 10);
-        due("17 most", free.tracks(), 262144);
+        due("most", free.tracks(), 262144);
         NoteBells nowhere = new NoteBells();
         nowhere.heard(0, 0);
-        due("17 no levels", nowhere.tracks(), 0);
+        due("no levels", nowhere.tracks(), 0);
     }
 
     private void promise18Where() {
+        checks.of("Promise 18: where()");
         NoteBells x = Checks.shaft("level 10 0 0;level 20 0 0;level 10 0 0;level 30 0 0;level 10 0 0;level 20 0 0;");
-        due("18 no notes", x.where(0), BAD);
+        due("no notes", x.where(0), BAD);
         hear(x, 0, 10, 1, 20);
-        due("18 by the first", x.where(0), 0b010101);
-        due("18 by the second", x.where(1), 0b100010);
+        due("by the first", x.where(0), 0b010101);
+        due("by the second", x.where(1), 0b100010);
         hear(x, 3, 30);
-        due("18 by the third", x.where(2), 0b001000);
-        due("18 the first, looked back on", x.where(0), 0b010101);
+        due("by the third", x.where(2), 0b001000);
+        due("the first, looked back on", x.where(0), 0b010101);
         hear(x, 3, 30, 3, 30);
         hear(x, 4, 10);
-        due("18 the last", x.where(5), 0b010100);
-        due("18 behind the last", x.where(6), BAD);
+        due("the last", x.where(5), 0b010100);
+        due("behind the last", x.where(6), BAD);
         for (int off : OFF) {
-            due("18 off", x.where(off), BAD);
+            due("off", x.where(off), BAD);
         }
         x.forget();
         hear(x, 0, 10, 0, 20);
-        due("18 no tracks", x.where(0), 0);
-        due("18 no tracks, second", x.where(1), 0);
+        due("no tracks", x.where(0), 0);
+        due("no tracks, second", x.where(1), 0);
         x.forget();
         hear(x, 0, 10, 1, 20, 1, 20, 2, 30);
-        due("18 far ones drop out", x.where(0), 0);
+        due("far ones drop out", x.where(0), 0);
         x.forget();
         hear(x, 0, 10, 1, 20, 3, 30, 4, 10, 5, 20);
-        due("18 forward and back", x.where(3), 0b010100);
-        due("18 forward and back, end", x.where(4), 0b100010);
+        due("forward and back", x.where(3), 0b010100);
+        due("forward and back, end", x.where(4), 0b100010);
     }
 
     private void promise19Men() {
+        checks.of("Promise 19: men()");
         NoteBells x = Checks.shaft("level 60 0 0;level 50 0 0;level 40 0 0;level 30 0 0;level 20 0 0;man 0;");
-        due("19 no notes", x.men(), 0);
+        due("no notes", x.men(), 0);
         hear(x, 0, 60);
-        due("19 one", x.men(), 1);
+        due("one", x.men(), 1);
         hear(x, 1, 50);
-        due("19 one can climb", x.men(), 1);
+        due("one can climb", x.men(), 1);
         hear(x, 1, 30);
-        due("19 two", x.men(), 2);
+        due("two", x.men(), 2);
         hear(x, 1, 40);
-        due("19 three", x.men(), 3);
+        due("three", x.men(), 3);
         x.falls(0);
-        due("19 silence is not asked", x.men(), 3);
+        due("silence is not asked", x.men(), 3);
         hear(x, 1, 60);
-        due("19 three are too few", x.men(), NONE);
+        due("three are too few", x.men(), NONE);
         x.forget();
         hear(x, 0, 60, 1, 61);
-        due("19 from nowhere", x.men(), NONE);
+        due("from nowhere", x.men(), NONE);
         x.forget();
         hear(x, 0, 60, 0, 20, 4, 20, 4, 60, 8, 60, 8, 20);
-        due("19 two by turns", x.men(), 2);
+        due("two by turns", x.men(), 2);
         NoteBells quick = Checks.shaft("level 60 0 0;level 50 0 0;level 40 0 0;level 30 0 0;level 20 0 0;pace 4;");
         hear(quick, 0, 60, 1, 20, 2, 60);
-        due("19 by pace", quick.men(), 1);
+        due("by pace", quick.men(), 1);
         // The second man must go to meet the first, though the first could go to meet him.
         NoteBells both = Checks.shaft("level 60 0 0;level 53 0 0;level 46 0 0;level 39 0 0;level 32 0 0;level 25 0 0;level 18 0 0;level 11 0 0;");
         hear(both, 0, 39, 0, 11, 2, 25, 2, 53);
-        due("19 the second climbs", both.men(), 2);
+        due("the second climbs", both.men(), 2);
         NoteBells nowhere = new NoteBells();
         nowhere.heard(0, 0);
-        due("19 no levels", nowhere.men(), NONE);
+        due("no levels", nowhere.men(), NONE);
     }
 
     private void echoes(String shaft, int want, int... minutesAndNotes) {
         NoteBells x = Checks.shaft(shaft);
         hear(x, minutesAndNotes);
-        StringBuilder b = new StringBuilder("19 echoes in " + shaft + ":");
+        StringBuilder b = new StringBuilder("echoes in " + shaft + ":");
         for (int n : minutesAndNotes) {
             b.append(' ').append(n);
         }
@@ -536,6 +560,7 @@ final class PromisesTest {
     }
 
     private void promise19Echoes() {
+        checks.of("Promise 19: men()");
         String far = "level 60 0 1;level 50 0 0;level 40 0 0;level 30 0 0;level 20 0 0;level 10 0 1;";
         echoes(far, 1, 0, 60, 2, 60, 2, 40);
         echoes(far, 2, 0, 60, 3, 60, 3, 40);
@@ -564,146 +589,158 @@ final class PromisesTest {
     }
 
     private void promise20Keeps() {
+        checks.of("Promise 20: keeps()");
         NoteBells x = Checks.shaft("level 60 0 0;level 50 0 0;level 40 0 0;");
-        due("20 none", x.keeps(0), 0);
-        due("20 all", x.keeps(1), 7);
+        due("none", x.keeps(0), 0);
+        due("all", x.keeps(1), 7);
         NoteBells all = Checks.shaft("level 5 0 0;".repeat(8) + "ear 9;");
-        due("20 seven", all.keeps(0), 7);
-        due("20 the least bits", all.keeps(1), 1);
+        due("seven", all.keeps(0), 7);
+        due("the least bits", all.keeps(1), 1);
         // 20 and 23 sound alike at the wets 5 and 6 alone.
         NoteBells wet = Checks.shaft("level 20 0 0;level 23 0 0;level 60 0 0;");
-        due("20 any wet", wet.keeps(0), 1);
-        due("20 any wet, the set", wet.keeps(1), 5);
+        due("any wet", wet.keeps(0), 1);
+        due("any wet, the set", wet.keeps(1), 5);
         wet.wet(7);
-        due("20 whatever the wet is", wet.keeps(1), 5);
+        due("whatever the wet is", wet.keeps(1), 5);
         NoteBells pairs = Checks.shaft("level 60 0 0;level 52 0 0;level 44 0 0;level 20 0 0;ear 9;");
-        due("20 middle is tuned", pairs.keeps(0), 1);
-        due("20 the outer ones", pairs.keeps(1), 13);
+        due("middle is tuned", pairs.keeps(0), 1);
+        due("the outer ones", pairs.keeps(1), 13);
         NoteBells years = Checks.shaft("level 60 9 0;level 20 0 0;level 10 0 0;");
-        due("20 ahead of years", years.keeps(0), 0);
+        due("ahead of years", years.keeps(0), 0);
         for (int i = 0; i < 5; i++) {
             years.year();
         }
-        due("20 behind years", years.keeps(1), 5);
+        due("behind years", years.keeps(1), 5);
         years.falls(0);
-        due("20 silence is not asked", years.keeps(1), 5);
-        due("20 what 2", x.keeps(2), BAD);
+        due("silence is not asked", years.keeps(1), 5);
+        NoteBells apart = Checks.shaft("level 60 9 0;level 59 0 0;ear 2;");
+        due("alike", apart.keeps(0), 1);
+        apart.year();
+        due("alike no more", apart.keeps(0), 0);
+        due("alike no more, the set", apart.keeps(1), 3);
+        due("what 2", x.keeps(2), BAD);
         for (int off : OFF) {
-            due("20 off", x.keeps(off), BAD);
+            due("off", x.keeps(off), BAD);
         }
-        due("20 no levels", new NoteBells().keeps(1), 0);
+        due("no levels", new NoteBells().keeps(1), 0);
     }
 
     private void promise21Meet() {
+        checks.of("Promise 21: meet()");
         NoteBells x = Checks.shaft("level 60 1 0;level 50 0 0;level 10 9 0;level 0 0 0;ear 1;");
-        due("21 nine years", x.meet(0, 1), 9);
-        due("21 either way", x.meet(1, 0), 9);
-        due("21 at 0", x.meet(2, 3), 1);
-        due("21 a long time", x.meet(0, 3), 59);
-        due("21 never", x.meet(1, 3), NONE);
+        due("nine years", x.meet(0, 1), 9);
+        due("either way", x.meet(1, 0), 9);
+        due("at 0", x.meet(2, 3), 1);
+        due("a long time", x.meet(0, 3), 59);
+        due("never", x.meet(1, 3), NONE);
         x.year();
-        due("21 from now on", x.meet(0, 1), 8);
+        due("from now on", x.meet(0, 1), 8);
         x.wet(6);
-        due("21 as wet as it is", x.meet(0, 1), 11);
-        due("21 the same", x.meet(1, 1), BAD);
+        due("as wet as it is", x.meet(0, 1), 11);
+        due("the same", x.meet(1, 1), BAD);
         for (int off : OFF) {
-            due("21 first off", x.meet(off, 1), BAD);
-            due("21 second off", x.meet(0, off), BAD);
+            due("first off", x.meet(off, 1), BAD);
+            due("second off", x.meet(0, off), BAD);
         }
         NoteBells now = Checks.shaft("level 5 1 0;level 5 9 0;");
-        due("21 now", now.meet(0, 1), 0);
-        due("21 stays", now.level(1, 0), 5);
-        due("21 level 2", now.meet(0, 2), BAD);
+        due("now", now.meet(0, 1), 0);
+        due("stays", now.level(1, 0), 5);
+        due("level 2", now.meet(0, 2), BAD);
     }
 
     private void promise22First() {
+        checks.of("Promise 22: first()");
         NoteBells x = Checks.shaft("level 60 0 0;level 50 0 0;level 20 2 0;level 10 0 0;ear 2;");
-        due("22 the pair", x.first(), 23);
+        due("the pair", x.first(), 23);
         NoteBells several = Checks.shaft("level 30 0 0;level 10 0 0;level 40 0 0;level 10 0 0;level 30 0 0;");
-        due("22 the first of several", several.first(), 4);
+        due("the first of several", several.first(), 4);
         NoteBells sooner = Checks.shaft("level 30 1 0;level 29 0 0;level 10 0 0;level 10 0 0;");
-        due("22 sooner is ahead", sooner.first(), 23);
+        due("sooner is ahead", sooner.first(), 23);
         NoteBells none = Checks.shaft("level 30 0 0;level 10 0 0;");
-        due("22 none", none.first(), NONE);
-        due("22 one level", Checks.shaft("level 30 0 0;").first(), NONE);
-        due("22 no levels", new NoteBells().first(), NONE);
+        due("none", none.first(), NONE);
+        due("one level", Checks.shaft("level 30 0 0;").first(), NONE);
+        due("no levels", new NoteBells().first(), NONE);
         NoteBells last = Checks.shaft("level 60 0 0;level 50 0 0;level 40 0 0;level 30 0 0;level 20 0 0;level 10 0 0;level 5 0 0;level 5 0 0;");
-        due("22 the last pair", last.first(), 67);
+        due("the last pair", last.first(), 67);
     }
 
     private void promise23Sing() {
+        checks.of("Promise 23: sing()");
         NoteBells x = new NoteBells();
-        due("23 too high", x.sing(100), BAD);
-        due("23 too low", x.sing(-100), BAD);
-        due("23 lowest", x.sing(-99), 1);
-        due("23 highest", x.sing(99), 2);
+        due("too high", x.sing(100), BAD);
+        due("too low", x.sing(-100), BAD);
+        due("lowest", x.sing(-99), 1);
+        due("highest", x.sing(99), 2);
         for (int i = 3; i <= 8; i++) {
-            due("23 more", x.sing(i), i);
+            due("more", x.sing(i), i);
         }
-        due("23 full", x.sing(0), FULL);
-        due("23 bad ahead of full", x.sing(100), BAD);
-        due("23 eight", x.count(6), 8);
+        due("full", x.sing(0), FULL);
+        due("bad ahead of full", x.sing(100), BAD);
+        due("eight", x.count(6), 8);
     }
 
     private void promise24Hush() {
+        checks.of("Promise 24: hush()");
         NoteBells x = Checks.shaft("level 10 0 0;man 0;");
-        due("24 none", x.hush(), 0);
+        due("none", x.hush(), 0);
         sing(x, 10, 99);
-        due("24 can't be played", x.climbing(), NONE);
-        due("24 two", x.hush(), 2);
-        due("24 none again", x.count(6), 0);
-        due("24 nothing to play", x.climbing(), 0);
-        due("24 anew", x.sing(10), 1);
+        due("can't be played", x.climbing(), NONE);
+        due("two", x.hush(), 2);
+        due("none again", x.count(6), 0);
+        due("nothing to play", x.climbing(), 0);
+        due("anew", x.sing(10), 1);
     }
 
     private void promise25Climbing() {
+        checks.of("Promise 25: climbing()");
         NoteBells x = Checks.shaft("level 60 0 0;level 50 0 0;level 40 0 0;level 30 0 0;level 20 0 0;man 0;man 4;");
-        due("25 no hymn", x.climbing(), 0);
+        due("no hymn", x.climbing(), 0);
         sing(x, 60, 20);
-        due("25 nobody climbs", x.climbing(), 0);
+        due("nobody climbs", x.climbing(), 0);
         sing(x, 30);
-        due("25 the near one", x.climbing(), 1);
+        due("the near one", x.climbing(), 1);
         sing(x, 60, 50);
-        due("25 each his part", x.climbing(), 2);
+        due("each his part", x.climbing(), 2);
         x.climbs(1, 0);
-        due("25 from where they stand", x.climbing(), 6);
+        due("from where they stand", x.climbing(), 6);
         x.falls(0);
-        due("25 silence is not asked", x.climbing(), 6);
-        due("25 nothing is changed", x.man(1), 0);
+        due("silence is not asked", x.climbing(), 6);
+        due("nothing is changed", x.man(1), 0);
         sing(x, 45);
-        due("25 from nowhere", x.climbing(), NONE);
+        due("from nowhere", x.climbing(), NONE);
         NoteBells nobody = Checks.shaft("level 60 0 0;");
         nobody.sing(60);
-        due("25 nobody", nobody.climbing(), NONE);
+        due("nobody", nobody.climbing(), NONE);
         // Far-sighted: the near man for the first note is not the best one.
         NoteBells far = Checks.shaft("level 60 0 0;level 50 0 0;level 40 0 0;level 30 0 0;level 20 0 0;man 1;man 4;");
         sing(far, 40, 50, 40, 50);
-        due("25 far-sighted", far.climbing(), 2);
+        due("far-sighted", far.climbing(), 2);
     }
 
     private void by(NoteBells x, int... menAndLevels) {
         for (int i = 0; i + 1 < menAndLevels.length; i += 2) {
-            due("26 by(" + i / 2 + ", 0)", x.by(i / 2, 0), menAndLevels[i]);
-            due("26 by(" + i / 2 + ", 1)", x.by(i / 2, 1), menAndLevels[i + 1]);
+            due("by(" + i / 2 + ", 0)", x.by(i / 2, 0), menAndLevels[i]);
+            due("by(" + i / 2 + ", 1)", x.by(i / 2, 1), menAndLevels[i + 1]);
         }
     }
 
     private void promise26By() {
+        checks.of("Promise 26: by()");
         NoteBells x = Checks.shaft("level 60 0 0;level 50 0 0;level 40 0 0;level 30 0 0;level 20 0 0;man 0;man 4;");
-        due("26 no hymn", x.by(0, 0), BAD);
+        due("no hymn", x.by(0, 0), BAD);
         sing(x, 60, 20, 30, 60, 50);
         by(x, 0, 0, 1, 4, 1, 3, 0, 0, 0, 1);
-        due("26 behind the hymn", x.by(5, 0), BAD);
-        due("26 what 2", x.by(0, 2), BAD);
-        due("26 what -1", x.by(0, -1), BAD);
+        due("behind the hymn", x.by(5, 0), BAD);
+        due("what 2", x.by(0, 2), BAD);
+        due("what -1", x.by(0, -1), BAD);
         for (int off : OFF) {
-            due("26 note off", x.by(off, 0), BAD);
-            due("26 what off", x.by(0, off), BAD);
+            due("note off", x.by(off, 0), BAD);
+            due("what off", x.by(0, off), BAD);
         }
         sing(x, 45);
-        due("26 can't be played", x.by(0, 0), NONE);
-        due("26 can't be played, level", x.by(5, 1), NONE);
-        due("26 bad ahead of none", x.by(6, 0), BAD);
+        due("can't be played", x.by(0, 0), NONE);
+        due("can't be played, level", x.by(5, 1), NONE);
+        due("bad ahead of none", x.by(6, 0), BAD);
         NoteBells even = Checks.shaft("level 60 0 0;level 50 0 0;level 60 0 0;man 1;man 1;man 1;");
         sing(even, 60);
         by(even, 0, 0);
@@ -714,51 +751,54 @@ final class PromisesTest {
         by(middle, 1, 1, 0, 2);
         NoteBells nobody = Checks.shaft("level 60 0 0;");
         nobody.sing(60);
-        due("26 nobody", nobody.by(0, 0), NONE);
+        due("nobody", nobody.by(0, 0), NONE);
         NoteBells third = Checks.shaft("level 60 0 0;level 50 0 0;level 40 0 0;level 30 0 0;level 20 0 0;level 10 0 0;level 5 0 0;level 0 0 0;man 0;man 0;man 7;");
         sing(third, 0, 5, 0, 60, 0, 5, 60, 0);
         by(third, 2, 7, 2, 6, 2, 7, 0, 0, 2, 7, 2, 6, 0, 0, 2, 7);
     }
 
     private void promise27Mark() {
+        checks.of("Promise 27: mark()");
         NoteBells x = Checks.shaft("level 20 3 1;level 10 0 0;level 0 0 1;man 2;man 2;man 0;wet 6;");
         int[][] wants = {{20, 21, 14, 42, 14, 21}, {10, 10, 4, 20, 5, 10}, {0, 1, -6, 2, -4, 2}};
         for (int l = 0; l < 3; l++) {
             for (int kind = 0; kind < 6; kind++) {
-                due("27 mark(" + kind + ", " + l + ")", x.mark(kind, l), wants[l][kind]);
+                due("mark(" + kind + ", " + l + ")", x.mark(kind, l), wants[l][kind]);
             }
         }
-        due("27 kind 6", x.mark(6, 0), NO);
-        due("27 level 3", x.mark(0, 3), NO);
+        due("kind 6", x.mark(6, 0), NO);
+        due("level 3", x.mark(0, 3), NO);
         for (int off : OFF) {
-            due("27 kind off", x.mark(off, 0), NO);
-            due("27 level off", x.mark(0, off), NO);
+            due("kind off", x.mark(off, 0), NO);
+            due("level off", x.mark(0, off), NO);
         }
         x.year();
-        due("27 worn", x.mark(0, 0), 17);
+        due("worn", x.mark(0, 0), 17);
         x.climbs(0, 1);
-        due("27 climbed", x.mark(5, 1), 11);
+        due("climbed", x.mark(5, 1), 11);
     }
 
     private void promise28Keep() {
+        checks.of("Promise 28: keep()");
         NoteBells x = Checks.shaft("level 20 3 1;");
-        due("28 at first", x.keep(0), 0);
+        due("at first", x.keep(0), 0);
         x.year();
-        due("28 a year on", x.keep(1), 1);
-        due("28 again", x.keep(0), 1);
-        due("28 image 2", x.keep(2), BAD);
-        due("28 image -1", x.keep(-1), BAD);
+        due("a year on", x.keep(1), 1);
+        due("again", x.keep(0), 1);
+        due("image 2", x.keep(2), BAD);
+        due("image -1", x.keep(-1), BAD);
         for (int off : OFF) {
-            due("28 off", x.keep(off), BAD);
+            due("off", x.keep(off), BAD);
         }
         x.year();
-        due("28 kept again", x.back(0), 1);
+        due("kept again", x.back(0), 1);
     }
 
     private void promise29Back() {
+        checks.of("Promise 29: back()");
         NoteBells x = Checks.shaft("level 20 3 1;level 30 1 0;man 1;ear 2;wet 4;pace 3;");
-        due("29 none kept", x.back(0), STATE);
-        due("29 image 2", x.back(2), BAD);
+        due("none kept", x.back(0), STATE);
+        due("image 2", x.back(2), BAD);
         x.year();
         hear(x, 3, 25, 4, 26);
         sing(x, 25, 15, 25);
@@ -771,64 +811,69 @@ final class PromisesTest {
         x.forget();
         hear(x, 9, 1, 9, 1, 9, 1);
         x.hush();
+        sing(x, 15, 15, 15);
         x.mark(0, 0);
         Checks.type(x, "ear");
-        due("29 the other", x.back(0), STATE);
-        due("29 back", x.back(1), 1);
-        counts("29", x, 2, 1, 2, 4, 3, 2, 3, 1, 3);
-        due("29 pitch", x.level(0, 0), 17);
-        due("29 pitch below", x.level(1, 0), 29);
-        due("29 man", x.man(0), 1);
-        due("29 rope", x.plucks(0), NO);
-        due("29 mends", x.mends(), 1);
-        due("29 the last minute", x.heard(3, 0), BAD);
-        due("29 the first note", x.where(0), 2);
-        due("29 the tracks", x.tracks(), 1);
-        due("29 the men", x.men(), 1);
-        due("29 the hymn", x.climbing(), 2);
-        due("29 who plays it", x.by(2, 1), 1);
-        due("29 trace stays", x.trace(), 1);
+        due("the other", x.back(0), STATE);
+        due("back", x.back(1), 1);
+        counts("behind back()", x, 2, 1, 2, 4, 3, 2, 3, 1, 3);
+        due("pitch", x.level(0, 0), 17);
+        due("pitch below", x.level(1, 0), 29);
+        due("man", x.man(0), 1);
+        due("rope", x.plucks(0), NO);
+        due("mends", x.mends(), 1);
+        due("the last minute", x.heard(3, 0), BAD);
+        due("the minute may be the same", x.heard(4, 26), 3);
+        due("back to two notes", x.back(1), 1);
+        due("the first note", x.where(0), 2);
+        due("the tracks", x.tracks(), 1);
+        due("the men", x.men(), 1);
+        due("the hymn", x.climbing(), 2);
+        due("who plays it", x.by(2, 1), 1);
+        due("trace stays", x.trace(), 1);
         x.year();
-        due("29 as often as asked", x.back(1), 1);
-        due("29 rope again", x.mends(), 1);
+        due("as often as asked", x.back(1), 1);
+        due("rope again", x.mends(), 1);
         for (int off : OFF) {
-            due("29 off", x.back(off), BAD);
+            due("off", x.back(off), BAD);
         }
         x.clear();
         Checks.type(x, "level 1 0 0;");
         x.shaft();
-        due("29 gone", x.back(1), STATE);
+        due("gone", x.back(1), STATE);
     }
 
     private void promise30Count() {
+        checks.of("Promise 30: count()");
         NoteBells x = Checks.shaft("level 20 3 1;level 20 3 1;level 20 3 1;man 1;man 0;ear 5;wet 7;pace 2;");
         hear(x, 1, 1, 2, 2, 3, 3, 4, 4);
         sing(x, 1, 2, 3, 4, 5, 6);
         x.year();
         Checks.type(x, "level 1 2");
-        counts("30", x, 3, 2, 5, 7, 2, 4, 6, 1, 9);
-        due("30 what 9", x.count(9), BAD);
-        due("30 what -1", x.count(-1), BAD);
-        due("30 least", x.count(Integer.MIN_VALUE), BAD);
+        counts("told, heard, sung and typed", x, 3, 2, 5, 7, 2, 4, 6, 1, 9);
+        due("what 9", x.count(9), BAD);
+        due("what -1", x.count(-1), BAD);
+        due("least", x.count(Integer.MIN_VALUE), BAD);
     }
 
     private void promise31Trace() {
+        checks.of("Promise 31: trace()");
         NoteBells x = Checks.shaft("level 20 3 1;");
         long[] wants = {1, 12, 113, 1124, 11225, 111226};
         for (int kind = 0; kind < 6; kind++) {
             x.mark(kind, 0);
-            due("31 behind kind " + kind, x.trace(), wants[kind]);
+            due("behind kind " + kind, x.trace(), wants[kind]);
         }
         x.mark(6, 0);
         x.mark(-1, 0);
         x.mark(0, 1);
-        due("31 nothing is changed", x.trace(), 111226);
+        due("nothing is changed", x.trace(), 111226);
         x.keep(0);
         x.mark(0, 0);
         x.back(0);
-        due("31 not in an image", x.trace(), 111227);
+        due("not in an image", x.trace(), 111227);
         x.shaft();
-        due("31 read anew", x.trace(), 111227);
-        due("31 nothing by itself", x.level(0, 3), NO);
+        due("read anew", x.trace(), 111227);
+        due("nothing by itself", x.level(0, 3), NO);
     }
 }
