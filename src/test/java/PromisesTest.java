@@ -199,6 +199,9 @@ final class PromisesTest {
         fault("wet 1;wet 1;", 6);
         fault("pace 1;ear 2;pace 1;", 13);
         fault(";".repeat(200), 0);
+        fault(";".repeat(199) + "5", 0);
+        fault("x".repeat(200), 0);
+        fault("5".repeat(200), 0);
         fault(" ".repeat(199) + "5", 199);
         fault(" ".repeat(197) + "ear", 200);
         fault(" ".repeat(195) + "ear 1", 200);
@@ -811,7 +814,7 @@ final class PromisesTest {
         x.forget();
         hear(x, 9, 1, 9, 1, 9, 1);
         x.hush();
-        sing(x, 15, 15, 15);
+        sing(x, 15, 15, 15, 15);
         x.mark(0, 0);
         Checks.type(x, "ear");
         due("the other", x.back(0), STATE);
